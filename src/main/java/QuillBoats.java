@@ -351,7 +351,7 @@ public final class QuillBoats {
         letHoursGo(spare, hours);
         int most = spare.peeled;
         int found = -1;
-        for (int peeler = 0; peeler < now.peelerCount; peeler++) {
+        for (int peeler = 0; peeler < now.peelerCount && peeler < MOST_PEELERS; peeler++) {
             spare.copyFrom(now);
             if (spare.whetsKnife(peeler)) {
                 letHoursGo(spare, hours);
@@ -366,7 +366,7 @@ public final class QuillBoats {
 
     public double mean() {
         int edges = 0;
-        for (int i = 0; i < now.peelerCount; i++) {
+        for (int i = 0; i < now.peelerCount && i < MOST_PEELERS; i++) {
             edges += now.peelers[i].edge;
         }
         return now.peelerCount > 0 ? (double) edges / (double) now.peelerCount : 0.0;
@@ -380,20 +380,20 @@ public final class QuillBoats {
         for (int hour = 0; hour < HOURS_OF_A_DAY; hour++) {
             d = d * 31 + now.shades[hour];
         }
-        for (int i = 0; i < now.gardenCount; i++) {
+        for (int i = 0; i < now.gardenCount && i < MOST_GARDENS; i++) {
             for (int what = 0; what <= 3; what++) {
                 d = d * 31 + now.ofGarden(i, what);
             }
         }
-        for (int i = 0; i < now.rackCount; i++) {
+        for (int i = 0; i < now.rackCount && i < MOST_RACKS; i++) {
             d = withRack(d, i);
         }
-        for (int i = 0; i < now.peelerCount; i++) {
+        for (int i = 0; i < now.peelerCount && i < MOST_PEELERS; i++) {
             for (int what = 0; what <= 5; what++) {
                 d = d * 31 + now.ofPeeler(i, what);
             }
         }
-        for (int i = 0; i < now.boatCount; i++) {
+        for (int i = 0; i < now.boatCount && i < MOST_BOATS; i++) {
             for (int what = 0; what <= 6; what++) {
                 d = d * 31 + now.ofBoat(i, what);
             }
@@ -1644,7 +1644,7 @@ public final class QuillBoats {
 
         private int dryingQuills() {
             int quills = 0;
-            for (int i = 0; i < rackCount; i++) {
+            for (int i = 0; i < rackCount && i < MOST_RACKS; i++) {
                 quills += racks[i].lyingQuills();
             }
             return quills;
@@ -1652,7 +1652,7 @@ public final class QuillBoats {
 
         private int shippedQuills() {
             int quills = 0;
-            for (int i = 0; i < boatCount; i++) {
+            for (int i = 0; i < boatCount && i < MOST_BOATS; i++) {
                 quills += boats[i].quills;
             }
             return quills;
@@ -1676,7 +1676,7 @@ public final class QuillBoats {
 
         private int peelersOfGarden(int garden) {
             int many = 0;
-            for (int i = 0; i < peelerCount; i++) {
+            for (int i = 0; i < peelerCount && i < MOST_PEELERS; i++) {
                 many += peelers[i].garden == garden ? 1 : 0;
             }
             return many;
@@ -1700,7 +1700,7 @@ public final class QuillBoats {
 
         private int peelersToRack(int rack) {
             int many = 0;
-            for (int i = 0; i < peelerCount; i++) {
+            for (int i = 0; i < peelerCount && i < MOST_PEELERS; i++) {
                 many += peelers[i].rack == rack ? 1 : 0;
             }
             return many;
@@ -1845,21 +1845,21 @@ public final class QuillBoats {
         // ---- an hour
 
         void letHourGo(Orders orders) {
-            for (int i = 0; i < peelerCount; i++) {
+            for (int i = 0; i < peelerCount && i < MOST_PEELERS; i++) {
                 peelers[i].resting = false;
             }
             orders.carryOut(this);
             if (hourOfDay() == 0) {
                 growSticks();
             }
-            for (int i = 0; i < peelerCount; i++) {
+            for (int i = 0; i < peelerCount && i < MOST_PEELERS; i++) {
                 letPeel(peelers[i]);
             }
             int shade = shades[hourOfDay()];
-            for (int i = 0; i < rackCount; i++) {
+            for (int i = 0; i < rackCount && i < MOST_RACKS; i++) {
                 racks[i].letDry(shade, grades);
             }
-            for (int i = 0; i < boatCount; i++) {
+            for (int i = 0; i < boatCount && i < MOST_BOATS; i++) {
                 if (boats[i].comesToMarket(miles, current)) {
                     sellQuills(boats[i]);
                 }
@@ -1868,7 +1868,7 @@ public final class QuillBoats {
         }
 
         private void growSticks() {
-            for (int i = 0; i < gardenCount; i++) {
+            for (int i = 0; i < gardenCount && i < MOST_GARDENS; i++) {
                 gardens[i].sticks = Math.min(MOST_STICKS, gardens[i].sticks + gardens[i].grows);
             }
         }

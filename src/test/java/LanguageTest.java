@@ -15,7 +15,10 @@ public final class LanguageTest {
         tokens();
         syntax();
         depths();
+        depthsOfLoading();
+        endsOfTheTape();
         manyTokens();
+        longestSum();
         names();
         counts();
         ranges();
@@ -279,7 +282,44 @@ public final class LanguageTest {
         due(rest + "not not not not not not not not 1-1=1-(1);", 1, at + 38);
     }
 
-    /** 25 lines with 16 tokens are 400; the end of the tape is none of them. */
+    private static void depthsOfLoading() {
+        String load = ALL + "load b with ";
+        fine(load + repeated("-", 8) + "1 of first;");
+        due(load + repeated("-", 9) + "1 of first;", 1, load.length() + 8);
+        String test = load + "1 of first when ";
+        fine(test + repeated("[", 8) + "1=1" + repeated("]", 8) + ";");
+        due(test + repeated("[", 9) + "1=1" + repeated("]", 9) + ";", 1, test.length() + 8);
+    }
+
+    /** What was cut off is not read, though it may still lie behind the end. */
+    private static void endsOfTheTape() {
+        String rest = ALL + "rest p when 1<";
+        QuillBoats x = new QuillBoats();
+        Check.write(x, rest + "=2;");
+        x.trim(rest.length());
+        CHECK.same("a tape that is cut ahead of =", x.teach(), 1);
+        CHECK.same("its place", x.errorAt(), rest.length());
+        Check.write(x, "river 9 current 4;river 8 current 3;");
+        x.trim(18);
+        CHECK.same("a tape that is cut ahead of a line", x.teach(), 0);
+        CHECK.same("the line is not told", x.count(13), 9);
+        Check.write(x, "river 9 current 45");
+        x.trim(17);
+        x.feed(0x3b202020, 0x20202020, 0x20202020, 0x20202020, 0x20202020);
+        CHECK.same("a number that is cut", x.teach(), 0);
+        CHECK.same("its first digit", x.count(14), 4);
+    }
+
+    /** 400 tokens, nearly each with a step of its own. */
+    private static void longestSum() {
+        String place = GARDEN + RACK + PEELER;
+        QuillBoats x = Check.told(place + "rest p when 1" + repeated("+1", 185) + "=186;");
+        x.pass(1);
+        CHECK.same("the longest sum", x.count(12), 1);
+        due(place + "rest p when 1" + repeated("+1", 186) + "=187;", 1, place.length() + 13 + 372 + 1);
+    }
+
+    /** 80 lines with 5 tokens are 400; the end of the tape is none of them. */
     private static void manyTokens() {
         String river = "river 1 current 1;";
         String eighty = repeated(river, 80);
