@@ -66,14 +66,14 @@ public final class QuillBoats {
     private final byte[] tape = new byte[MOST_BYTES];
     private int tapeLength = 0;
     private int errorPlace = -1;
-    private final Tokens tokens = new Tokens();
     private final Orders orders = new Orders();
-    private final Orders draft = new Orders();
     private final River now = new River();
+    private final Names names = new Names();
+    private final Grammar grammar = names.grammar;
+    private final Tokens tokens = grammar.tokens;
+    private final Orders draft = grammar.orders;
     // What is told is built here, and what would be is tried out here, so that nothing is made in a call.
-    private final River spare = new River();
-    private final Grammar grammar = new Grammar(tokens, draft);
-    private final Names names = new Names(tokens, spare);
+    private final River spare = names.river;
 
     public QuillBoats() {
     }
@@ -590,14 +590,12 @@ public final class QuillBoats {
 
     /** Reads the tokens as a list, and writes down the steps of its orders. */
     private static final class Grammar {
-        private final Tokens tokens;
-        private final Orders orders;
+        final Tokens tokens = new Tokens();
+        final Orders orders = new Orders();
         private int at = 0;
         private int next = END;
 
-        Grammar(Tokens tokens, Orders orders) {
-            this.tokens = tokens;
-            this.orders = orders;
+        Grammar() {
         }
 
         /** The token that is to be read next: if a list is not read, the first that is wrong. */
@@ -842,15 +840,14 @@ public final class QuillBoats {
 
     /** Looks at keywords, names and numbers from left to right, and builds the river that they tell of. */
     private static final class Names {
-        private final Tokens tokens;
-        private final River river;
+        final Grammar grammar = new Grammar();
+        private final Tokens tokens = grammar.tokens;
+        final River river = new River();
         private final long[][] known = new long[4][MOST_PEELERS];
         private final int[] counts = new int[4];
         private int at = 0;
 
-        Names(Tokens tokens, River river) {
-            this.tokens = tokens;
-            this.river = river;
+        Names() {
         }
 
         /** The token that was looked at last: the one with the error, if there is one. */
