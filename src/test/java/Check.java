@@ -1,5 +1,6 @@
 import java.nio.charset.StandardCharsets;
 import java.util.Arrays;
+import java.util.function.IntUnaryOperator;
 import java.util.function.LongSupplier;
 
 /** Counts what is not as it is due, and ends the program with 1 if there was something. */
@@ -43,6 +44,24 @@ final class Check {
 
     void illegalState(String what, LongSupplier call) {
         same(what, outcome(call), "IllegalStateException");
+    }
+
+    /** A new object is told a list, and answers an error and its place. */
+    void list(String text, int error, int place) {
+        QuillBoats x = new QuillBoats();
+        same("teach() of " + text, tell(x, text), error);
+        same("errorAt() of " + text, x.errorAt(), place);
+    }
+
+    void fine(String text) {
+        list(text, 0, -1);
+    }
+
+    /** Several numbers that a call answers, from its last argument 0 on. */
+    void row(String what, IntUnaryOperator call, int... due) {
+        for (int i = 0; i < due.length; i++) {
+            same(what + " " + i, call.applyAsInt(i), due[i]);
+        }
     }
 
     private void fail(String text) {
