@@ -61,6 +61,7 @@ public final class CallEdgesTest {
         passing();
         until();
         foreseeing();
+        foreseeingQuillsOfAllGrades();
         advising();
         best();
         means();
@@ -521,6 +522,31 @@ public final class CallEdgesTest {
         }
     }
 
+    /** Bundles in the sun come into the store by their grades, then into boats, which bring different coins. */
+    private static void foreseeingQuillsOfAllGrades() {
+        String list = "garden g sticks 99 grows 9 thick 1;garden h sticks 40 grows 9 thick 4;rack r holds 60;"
+                + "peeler p of g to r skill 5;peeler q of h to r skill 2;shade 2 is 0;shade 3 is 0;shade 4 is 0;"
+                + "shade 7 is 0;shade 8 is 0;shade 9 is 0;river 3 current 1;price second 20;price third 30;"
+                + "price fourth 50;boat a holds 9 speed 3;boat b holds 9 speed 3;boat c holds 9 speed 3;"
+                + "boat d holds 9 speed 3;load a with 9 of first;load b with 9 of second;load c with 9 of third;"
+                + "load d with 9 of fourth;";
+        for (int begun = 1; begun <= 30; begun++) {
+            for (int hours : new int[] {1, 2, 3, 5, 8, 13, 21}) {
+                QuillBoats x = Check.told(list);
+                x.pass(begun);
+                QuillBoats twin = Check.told(list);
+                twin.pass(begun);
+                twin.pass(hours);
+                CHECK.same("foresee(" + hours + ", 1) behind " + begun, x.foresee(hours, 1), twin.count(1));
+                CHECK.same("foresee(" + hours + ", 7) behind " + begun, x.foresee(hours, 7), twin.count(7));
+            }
+        }
+        QuillBoats x = Check.told(list);
+        x.pass(40);
+        CHECK.isTrue("of all grades some are sold", x.grade(0, 4) > 0 && x.grade(1, 4) > 0 && x.grade(2, 4) > 0
+                && x.grade(3, 4) > 0);
+    }
+
     /** "if there is no such boat", then "if hours is not 1 to 100" */
     private static void advising() {
         none("advise", (x, n) -> x.advise(n, 1));
@@ -534,6 +560,7 @@ public final class CallEdgesTest {
             OF_ALL.outOfBounds("advise(-1, " + hours + ")", x -> x.advise(-1, hours));
         }
         adviceByHours();
+        adviceByWhatTheBoatHolds();
     }
 
     /** The boat is at the market behind 4 hours: in fewer no grade brings more; with nothing to load none does. */
@@ -554,6 +581,34 @@ public final class CallEdgesTest {
             QuillBoats x = Check.told(two + "price first " + prices[i][0] + ";price second " + prices[i][1] + ";");
             x.pass(12);
             CHECK.same("prices " + prices[i][0] + " and " + prices[i][1], x.advise(0, 1), due[i]);
+        }
+        adviceAgainstOrders(two + "whet p when hour=0;whet q when hour=0;");
+    }
+
+    /** "with as many quills as it holds at most": one of the first in the store, nine of the second. */
+    private static void adviceByWhatTheBoatHolds() {
+        for (int holds = 1; holds <= 40; holds++) {
+            QuillBoats x = Check.told("garden g sticks 1 grows 0 thick 1;garden h sticks 9 grows 0 thick 4;rack r holds 60;"
+                    + "peeler p of g to r skill 9;peeler q of h to r skill 9;boat b holds " + holds + " speed 9;"
+                    + "boat c holds 40 speed 9;river 1 current 0;price first 20;price second 5;");
+            x.pass(12);
+            int second = x.worth(1, Math.min(holds, 9));
+            CHECK.same("a boat that holds " + holds, x.advise(0, 1), second > 20 ? 1 : 0);
+            CHECK.same("another boat", x.advise(1, 1), 1);
+        }
+    }
+
+    /** "by none there are more coins than without": an order may load the boat too, and others pay 4 coins. */
+    private static void adviceAgainstOrders(String list) {
+        String[] orders = {"price first 1;price second 0;",
+            "price first 5;price second 4;load b with 1 of second when hour=0;",
+            "price first 5;price second 4;load b with 1 of first when hour=0;",
+            "price first 4;price second 5;load b with 1 of first when hour=0;"};
+        int[] due = {0, 0, -1, 1};
+        for (int i = 0; i < orders.length; i++) {
+            QuillBoats x = Check.told(list + orders[i]);
+            x.pass(12);
+            CHECK.same("with " + orders[i], x.advise(0, 1), due[i]);
         }
     }
 
@@ -576,6 +631,11 @@ public final class CallEdgesTest {
         for (int coins = 0; coins <= 3; coins++) {
             QuillBoats x = withCoins(coins);
             CHECK.same("best(60) with " + coins + " coins", x.best(60), coins < 2 ? -1 : 1);
+        }
+        QuillBoats x = Check.told(two + "2;peeler q of g to r skill 1;whet q when hour=5;");
+        x.pass(1);
+        for (int hours = 1; hours <= 60; hours++) {
+            CHECK.same("by none there are more than without, in " + hours, x.best(hours), hours <= 10 ? -1 : 0);
         }
         QuillBoats idle = Check.told("garden g sticks 1 grows 0 thick 1;rack r holds 60;peeler p of g to r skill 1;");
         idle.pass(1);

@@ -38,6 +38,8 @@ public final class HourEdgesTest {
         bundlesComeToTheEndOfTheRow();
         peelersByNumbers();
         shadeDriesAndSunDoesNot();
+        aNewBundleHasNeitherDriedNorBeenInTheSun();
+        eachBundleKeepsItsHoursInTheSun();
         bundlesLeaveWithThreeTimesTheirThickness();
         allThatHaveDriedLeave();
         theGradeAsItIsThen();
@@ -45,6 +47,7 @@ public final class HourEdgesTest {
         quillsAreSoldOneByOne();
         boatsByNumbers();
         coinsUpTo99999();
+        wordsTellWhatThereIs();
         CHECK.end();
     }
 
@@ -591,6 +594,35 @@ public final class HourEdgesTest {
         CHECK.same("the shade of hour 0 of the next day", y.bundle(0, 0, 2), 17);
     }
 
+    /** "(both 0, at first)", also where a bundle lay that was in the sun. */
+    private static void aNewBundleHasNeitherDriedNorBeenInTheSun() {
+        QuillBoats x = Check.told("garden g sticks 99 grows 0 thick 1;rack r holds 60;peeler p of g to r skill 1;"
+                + "shade 0 is 0;shade 1 is 0;shade 2 is 3;shade 3 is 1;shade 4 is 0;");
+        x.pass(2);
+        CHECK.row("sun at", place -> x.bundle(0, place, 3), 2, 1);
+        CHECK.row("dried at", place -> x.bundle(0, place, 2), 0, 0);
+        x.pass(1);
+        CHECK.same("all have left", x.rack(0, 2), 0);
+        x.pass(1);
+        CHECK.row("a new bundle", what -> x.bundle(0, 0, what), 1, 1, 1, 0, 0);
+        x.pass(1);
+        CHECK.row("sun at", place -> x.bundle(0, place, 3), 1, 1);
+        CHECK.row("dried at", place -> x.bundle(0, place, 2), 1, 0);
+    }
+
+    /** What is left of the row keeps all of its own. */
+    private static void eachBundleKeepsItsHoursInTheSun() {
+        QuillBoats x = Check.told("garden g sticks 1 grows 0 thick 1;garden h sticks 9 grows 0 thick 9;rack r holds 60;"
+                + "peeler p of g to r skill 1;peeler q of h to r skill 2;rest q when hour=0;shade 0 is 0;shade 1 is 2;");
+        x.pass(2);
+        CHECK.row("sun at", place -> x.bundle(0, place, 3), 1, 0);
+        CHECK.row("dried at", place -> x.bundle(0, place, 2), 2, 2);
+        x.pass(1);
+        CHECK.row("the second is the first", what -> x.bundle(0, 0, what), 2, 9, 3, 0, 2);
+        CHECK.row("the third is the second", what -> x.bundle(0, 1, what), 2, 9, 1, 0, 2);
+        CHECK.same("two are left", x.rack(0, 2), 2);
+    }
+
     /** "bundles that have dried 3 * thick or more leave the rack": not with one less, and with more at once. */
     private static void bundlesLeaveWithThreeTimesTheirThickness() {
         for (int thick = 1; thick <= 9; thick++) {
@@ -740,5 +772,49 @@ public final class HourEdgesTest {
             CHECK.same("coins behind " + coins, x.count(1), Math.min(99999, coins + 10));
             CHECK.same("brought", x.boat(0, 6) * 10 + x.boat(1, 6), 55);
         }
+    }
+
+    private static final String[] WORDS = {"hour", "coins", "sticks g", "sticks h", "edge p", "edge q", "room r", "room s",
+        "mile b", "mile c", "store first", "store second", "store third", "store fourth", "price first", "price second",
+        "price third", "price fourth"};
+    private static final String BUSY = "garden g sticks 50 grows 5 thick 1;garden h sticks 60 grows 0 thick 4;"
+            + "garden i sticks 0 grows 0 thick 1;rack r holds 30;rack s holds 40;peeler p of g to r skill 7;"
+            + "peeler q of h to s skill 3;peeler u of i to s skill 1;boat b holds 9 speed 4;boat c holds 2 speed 3;"
+            + "river 5 current 1;shade 1 is 3;shade 2 is 3;shade 3 is 0;shade 4 is 3;price first 9;price second 7;"
+            + "load b with 9 of first;load c with 2 of second when hour>3;whet p when edge p<14;";
+
+    /** "In tests and sums hour is the hour of the day, coins what there is, ...": in each hour of two days. */
+    private static void wordsTellWhatThereIs() {
+        QuillBoats twin = Check.told(BUSY);
+        for (int hour = 0; hour < 24; hour++) {
+            StringBuilder orders = new StringBuilder();
+            int[] numbers = {hour % 12, twin.count(1), twin.garden(0, 0), twin.garden(1, 0), twin.peeler(0, 3),
+                twin.peeler(1, 3), twin.rack(0, 1), twin.rack(1, 1), twin.boat(0, 2), twin.boat(1, 2), twin.grade(0, 0),
+                twin.grade(1, 0), twin.grade(2, 0), twin.grade(3, 0), twin.grade(0, 3), twin.grade(1, 3),
+                twin.grade(2, 3), twin.grade(3, 3)};
+            for (int i = 0; i < WORDS.length; i++) {
+                orders.append(i == 0 ? "" : " and ").append(WORDS[i]).append("=").append(numbers[i]);
+            }
+            for (int i = 0; i < 2; i++) {
+                orders.append(" and ").append(twin.boat(i, 3) == 0 ? "not " : "").append("afloat ").append("bc".charAt(i));
+                orders.append(" and ").append(twin.peeler(i, 3) == 0 ? "" : "not ").append("blunt ").append("pq".charAt(i));
+            }
+            wordsHold(hour, orders.toString(), twin);
+            twin.pass(1);
+        }
+        CHECK.isTrue("much has been sold", twin.count(11) > 20);
+    }
+
+    /** The test stands first, so that it tells of what there is ahead of the hour. */
+    private static void wordsHold(int hour, String test, QuillBoats twin) {
+        int line = BUSY.indexOf("load b");
+        QuillBoats x = Check.told(BUSY.substring(0, line) + "rest u when " + test + ";" + BUSY.substring(line));
+        if (hour > 0) {
+            x.pass(hour);
+        }
+        int before = x.count(12);
+        int due = twin.foresee(1, 12) - twin.count(12) + 1;
+        x.pass(1);
+        CHECK.same("in hour " + hour + " " + test, x.count(12) - before, due);
     }
 }

@@ -27,6 +27,7 @@ public final class ListEdgesTest {
         theEndOfTheTapeIsAtItsLength();
         fourHundredTokensButNot401();
         errorTwoIsANameOfTheSameKind();
+        namesAreTheSameByEachOfTheirSigns();
         errorThreeIsANameOfNothing();
         namesHaveToBeToldAhead();
         errorFourOfNames();
@@ -298,6 +299,34 @@ public final class ListEdgesTest {
         CHECK.list("rack a holds 1;rack c holds 1;rack d holds 1;rack a holds 1;", 2, 50);
         CHECK.fine("garden x sticks 1 grows 1 thick 1;rack x holds 1;peeler x of x to x skill 1;boat x holds 1 speed 1;");
         CHECK.fine("rack x holds 1;rack xx holds 1;rack xxx holds 1;rack x1 holds 1;");
+    }
+
+    /** Two names that differ in one sign, or in their length alone, are two; the same twice is error 2. */
+    private static void namesAreTheSameByEachOfTheirSigns() {
+        String signs = "abcdefghijklmnopqrstuvwxyz0123456789";
+        for (int place = 0; place < 10; place++) {
+            String letters = place == 0 ? signs.substring(0, 26) : signs;
+            for (int i = 0; i < letters.length(); i++) {
+                for (int j = 0; j < letters.length(); j++) {
+                    String before = "quillboats".substring(0, place);
+                    String behind = "quillboats".substring(place + 1);
+                    twoRacks(before + letters.charAt(i) + behind, before + letters.charAt(j) + behind);
+                }
+            }
+        }
+        String[] several = {"a", "aa", "aaa", "aaaaaaaaaa", "b", "ab", "ba", "aab", "z", "z0", "za", "a0", "b0", "a00",
+            "zz", "z9", "zzzzzzzzzz", "z999999999", "a000000000", "r", "rac", "racks", "q1", "q01", "q10"};
+        for (String one : several) {
+            for (String other : several) {
+                twoRacks(one, other);
+            }
+        }
+    }
+
+    private static void twoRacks(String one, String other) {
+        String first = "rack " + one + " holds 1;";
+        boolean same = one.equals(other);
+        CHECK.list(first + "rack " + other + " holds 2;", same ? 2 : 0, same ? first.length() + 5 : -1);
     }
 
     /** "Error 3: another name is none of what it has to be, told ahead" */

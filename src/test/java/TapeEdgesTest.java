@@ -24,6 +24,7 @@ public final class TapeEdgesTest {
         trimCutsTheLastBytes();
         teachReturnsNoughtOrTheErrorAndEmptiesTheTape();
         teachTakesThePlaceOfAllButTheHour();
+        teachKnowsNothingOfWhatWasTriedOut();
         teachWithAnErrorChangesNothing();
         errorAtTellsOfTheLatestTeach();
         positionsAreCountedFromNoughtInBytes();
@@ -223,11 +224,31 @@ public final class TapeEdgesTest {
                     x.pass(hours);
                 }
                 fresh.pass(17 + hours);
+                CHECK.isTrue("much has been told and tried", Whole.of(x).length() > 200);
                 CHECK.same("teach() behind another list", Check.tell(x, list), Check.tell(fresh, list));
                 CHECK.same("the hour stays", x.count(0), 17 + hours);
                 CHECK.same("all but the hour begins anew: " + list, Whole.of(x), Whole.of(fresh));
                 CHECK.same("and goes on so", x.pass(30), fresh.pass(30));
                 CHECK.same("all of it", Whole.of(x), Whole.of(fresh));
+            }
+        }
+    }
+
+    /** What was tried out ahead of it, at whatever hour it ended, is no part of what begins anew. */
+    private static void teachKnowsNothingOfWhatWasTriedOut() {
+        for (int hours = 1; hours <= 40; hours++) {
+            for (String list : new String[] {"", LIVELY}) {
+                QuillBoats x = lively();
+                x.foresee(hours, 11);
+                QuillBoats y = lively();
+                y.advise(1, hours);
+                QuillBoats fresh = new QuillBoats();
+                fresh.pass(17);
+                Check.tell(fresh, list);
+                CHECK.same("teach() behind foresee()", Check.tell(x, list), 0);
+                CHECK.same("all behind foresee(" + hours + ", 11)", x.digest(), fresh.digest());
+                CHECK.same("teach() behind advise()", Check.tell(y, list), 0);
+                CHECK.same("all behind advise(1, " + hours + ")", y.digest(), fresh.digest());
             }
         }
     }
