@@ -59,10 +59,6 @@ public final class QuillBoats {
     // Steps of the orders that are no token of their own.
     private static final int NEGATE = 59, ALWAYS = 60;
 
-    // What can be named, as the rows of Names have it, and how many there may be of each.
-    private static final int A_GARDEN = 0, A_RACK = 1, A_PEELER = 2, A_BOAT = 3;
-    private static final int[] MOST_NAMED = {MOST_GARDENS, MOST_RACKS, MOST_PEELERS, MOST_BOATS};
-
     private final byte[] tape = new byte[MOST_BYTES];
     private int tapeLength = 0;
     private int errorPlace = -1;
@@ -627,8 +623,8 @@ public final class QuillBoats {
             return true;
         }
 
-        private boolean readsGrade() {
-            return reads(FIRST) || reads(SECOND) || reads(THIRD) || reads(FOURTH);
+        private static boolean isGrade(int kind) {
+            return kind == FIRST || kind == SECOND || kind == THIRD || kind == FOURTH;
         }
 
         private boolean readsNumberOf(int keyword) {
@@ -655,7 +651,7 @@ public final class QuillBoats {
                 case SHADE:
                     return readsNumberOf(SHADE) && readsNumberOf(IS);
                 case PRICE:
-                    return reads(PRICE) && readsGrade() && reads(NUMBER);
+                    return reads(PRICE) && isGrade(next) && reads(next) && reads(NUMBER);
                 case WHET:
                     return readsOrderWithTest(WHET);
                 case LOAD:
@@ -682,7 +678,7 @@ public final class QuillBoats {
                 return false;
             }
             orders.add(NUMBER, at);
-            if (!readsGrade()) {
+            if (!isGrade(next) || !reads(next)) {
                 return false;
             }
             if (!reads(WHEN)) {
@@ -723,28 +719,20 @@ public final class QuillBoats {
         private boolean readsSingle(int depth) {
             switch (next) {
                 case NOT:
-                    if (!goesDeeper(NOT, depth) || !readsSingle(depth + 1)) {
+                    if (!mayGoDeeper(depth) || !reads(NOT) || !readsSingle(depth + 1)) {
                         return false;
                     }
                     orders.add(NOT, at);
                     return true;
                 case OPEN_TEST:
-                    return goesDeeper(OPEN_TEST, depth) && readsTest(depth + 1) && reads(CLOSE_TEST);
+                    return mayGoDeeper(depth) && reads(OPEN_TEST) && readsTest(depth + 1) && reads(CLOSE_TEST);
                 case AFLOAT:
-                    return readsAsk(AFLOAT);
                 case BLUNT:
-                    return readsAsk(BLUNT);
+                    orders.add(next, at + 1);
+                    return reads(next) && reads(NAME);
                 default:
-                    return readsComparison(depth);
+                    break;
             }
-        }
-
-        /** The token is wrong if it would lead too deep. */
-        private boolean goesDeeper(int kind, int depth) {
-            return depth < DEEPEST && reads(kind);
-        }
-
-        private boolean readsComparison(int depth) {
             if (!readsSum(depth)) {
                 return false;
             }
@@ -754,6 +742,11 @@ public final class QuillBoats {
             }
             orders.add(comparison, at);
             return true;
+        }
+
+        /** Where it may not, the token that would lead too deep is the wrong one: it is not read. */
+        private static boolean mayGoDeeper(int depth) {
+            return depth < DEEPEST;
         }
 
         private static boolean isComparison(int kind) {
@@ -800,19 +793,20 @@ public final class QuillBoats {
                 case EDGE:
                 case ROOM:
                 case MILE:
-                    return readsAsk(kind);
+                    orders.add(kind, at + 1);
+                    return reads(kind) && reads(NAME);
                 case STORE:
                 case PRICE:
                     orders.add(kind, at + 1);
-                    return reads(kind) && readsGrade();
+                    return reads(kind) && isGrade(next) && reads(next);
                 case MINUS:
-                    if (!goesDeeper(MINUS, depth) || !readsValue(depth + 1)) {
+                    if (!mayGoDeeper(depth) || !reads(MINUS) || !readsValue(depth + 1)) {
                         return false;
                     }
                     orders.add(NEGATE, at);
                     return true;
                 case OPEN:
-                    return goesDeeper(OPEN, depth) && readsSum(depth + 1) && reads(CLOSE);
+                    return mayGoDeeper(depth) && reads(OPEN) && readsSum(depth + 1) && reads(CLOSE);
                 case MIN:
                 case MAX:
                     return readsChoice(kind, depth);
@@ -821,13 +815,8 @@ public final class QuillBoats {
             }
         }
 
-        private boolean readsAsk(int kind) {
-            orders.add(kind, at + 1);
-            return readsNameOf(kind);
-        }
-
         private boolean readsChoice(int kind, int depth) {
-            if (!reads(kind) || !goesDeeper(OPEN, depth) || !readsSum(depth + 1)) {
+            if (!reads(kind) || !mayGoDeeper(depth) || !reads(OPEN) || !readsSum(depth + 1)) {
                 return false;
             }
             if (!reads(COMMA) || !readsSum(depth + 1) || !reads(CLOSE)) {
@@ -843,8 +832,10 @@ public final class QuillBoats {
         final Grammar grammar = new Grammar();
         private final Tokens tokens = grammar.tokens;
         final River river = new River();
-        private final long[][] known = new long[4][MOST_PEELERS];
-        private final int[] counts = new int[4];
+        private final Roll gardens = new Roll(MOST_GARDENS);
+        private final Roll racks = new Roll(MOST_RACKS);
+        private final Roll peelers = new Roll(MOST_PEELERS);
+        private final Roll boats = new Roll(MOST_BOATS);
         private int at = 0;
 
         Names() {
@@ -857,11 +848,13 @@ public final class QuillBoats {
 
         /** Answers 0, or the first error, 2 to 5. */
         int lookAtAll() {
-            for (int i = 0; i < counts.length; i++) {
-                counts[i] = 0;
-            }
-            for (at = 0; at < MOST_TOKENS && tokens.kindOf(at) != END; at++) {
-                int error = lookAt(tokens.kindOf(at));
+            gardens.clear();
+            racks.clear();
+            peelers.clear();
+            boats.clear();
+            for (int i = 0; i < MOST_TOKENS && tokens.kindOf(i) != END; i++) {
+                at = i;
+                int error = lookAt(tokens.kindOf(i));
                 if (error != 0) {
                     return error;
                 }
@@ -894,69 +887,56 @@ public final class QuillBoats {
         private int lookAtName(int before) {
             switch (before) {
                 case GARDEN:
-                    return addName(A_GARDEN);
+                    return addName(gardens, GARDEN);
                 case RACK:
-                    return addName(A_RACK);
+                    return addName(racks, RACK);
                 case PEELER:
-                    return addName(A_PEELER);
+                    return addName(peelers, PEELER);
                 case BOAT:
-                    return addName(A_BOAT);
+                    return addName(boats, BOAT);
                 case OF:
                     return setGardenOfPeeler();
                 case TO:
                     return setRackOfPeeler();
                 case STICKS:
-                    return findName(A_GARDEN);
+                    return findName(gardens);
                 case ROOM:
-                    return findName(A_RACK);
+                    return findName(racks);
                 case WHET:
                 case REST:
                 case EDGE:
                 case BLUNT:
-                    return findName(A_PEELER);
+                    return findName(peelers);
                 default:
-                    return findName(A_BOAT);
+                    return findName(boats);
             }
         }
 
-        private int addName(int of) {
-            if (placeOfName(of) >= 0) {
+        private int addName(Roll roll, int kind) {
+            if (roll.placeOf(tokens.wordOf(at)) >= 0) {
                 return 2;
             }
-            if (counts[of] >= MOST_NAMED[of] || counts[of] >= known[of].length) {
+            if (!roll.takes(tokens.wordOf(at))) {
                 return 4;
             }
-            known[of][counts[of]] = tokens.wordOf(at);
-            counts[of]++;
-            river.addOne(of);
+            river.addOne(kind);
             return 0;
         }
 
-        private int findName(int of) {
-            int place = placeOfName(of);
+        private int findName(Roll roll) {
+            int place = roll.placeOf(tokens.wordOf(at));
             tokens.setNumber(at, place);
             return place < 0 ? 3 : 0;
         }
 
-        /** The number of the one of this kind that has the name here; -1 if none has. */
-        private int placeOfName(int of) {
-            long word = tokens.wordOf(at);
-            for (int i = 0; i < counts[of] && i < known[of].length; i++) {
-                if (known[of][i] == word) {
-                    return i;
-                }
-            }
-            return -1;
-        }
-
         private int setGardenOfPeeler() {
-            int error = findName(A_GARDEN);
+            int error = findName(gardens);
             river.latestPeeler().garden = tokens.numberOf(at);
             return error;
         }
 
         private int setRackOfPeeler() {
-            int error = findName(A_RACK);
+            int error = findName(racks);
             river.latestPeeler().rack = tokens.numberOf(at);
             return error;
         }
@@ -1013,6 +993,39 @@ public final class QuillBoats {
 
         private int errorOutside(int least, int most) {
             return isWithin(tokens.numberOf(at), least, most) ? 0 : 5;
+        }
+    }
+
+    /** The names of one kind in the order in which they are told, as many as there may be. */
+    private static final class Roll {
+        private final long[] words;
+        private int count = 0;
+
+        Roll(int most) {
+            words = new long[Math.max(0, most)];
+        }
+
+        void clear() {
+            count = 0;
+        }
+
+        boolean takes(long word) {
+            if (count < 0 || count >= words.length) {
+                return false;
+            }
+            words[count] = word;
+            count++;
+            return true;
+        }
+
+        /** Answers -1 if the name was not told. */
+        int placeOf(long word) {
+            for (int i = 0; i < count && i < words.length; i++) {
+                if (words[i] == word) {
+                    return i;
+                }
+            }
+            return -1;
         }
     }
 
@@ -1528,16 +1541,16 @@ public final class QuillBoats {
         // ---- what is told of it
 
         /** One more garden, rack, peeler or boat, as one begins; what else it has is told behind its name. */
-        void addOne(int of) {
-            if (of == A_GARDEN && gardenCount < MOST_GARDENS) {
+        void addOne(int kind) {
+            if (kind == GARDEN && gardenCount < MOST_GARDENS) {
                 gardenCount++;
-            } else if (of == A_RACK && rackCount < MOST_RACKS) {
+            } else if (kind == RACK && rackCount < MOST_RACKS) {
                 rackCount++;
                 latestRack().clear();
-            } else if (of == A_PEELER && peelerCount < MOST_PEELERS) {
+            } else if (kind == PEELER && peelerCount < MOST_PEELERS) {
                 peelerCount++;
                 latestPeeler().clear();
-            } else if (of == A_BOAT && boatCount < MOST_BOATS) {
+            } else if (kind == BOAT && boatCount < MOST_BOATS) {
                 boatCount++;
                 latestBoat().clear();
             }
